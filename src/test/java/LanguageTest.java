@@ -1,0 +1,156 @@
+import java.lang.management.ManagementFactory;
+import java.lang.reflect.Field;
+import java.lang.reflect.Method;
+import java.lang.reflect.Modifier;
+import java.nio.file.Files;
+import java.nio.file.Path;
+import java.util.Set;
+import java.util.TreeSet;
+import java.util.regex.Matcher;
+import java.util.regex.Pattern;
+
+/** Those rules of LANGUAGE.md that can be looked at, and the room that calls take. */
+public final class LanguageTest {
+    private static final String FACE = "as blank change chord count digest drawn fault forget free image leastShift letter "
+        + "part plan press put reach restore see setting shift shifted swap take tone";
+    private static int wrong = 0;
+
+    private static void rule(String what, boolean holds) {
+        if (!holds) {
+            wrong++;
+            System.out.println("not so: " + what);
+        }
+    }
+
+    public static void main(String[] args) throws Exception {
+        String source = Files.readString(Path.of("src/main/java/HarpPedals.java"));
+        String code = source.replaceAll("(?s)/\\*.*?\\*/", "").replaceAll("//[^\n]*", "");
+        theFace();
+        theWords(code);
+        theMethods(code);
+        theRoom();
+        System.out.println(wrong == 0 ? "all rules hold" : wrong + " rules do not hold");
+        if (wrong != 0) {
+            System.exit(1);
+        }
+    }
+
+    private static void theFace() {
+        Set<String> face = new TreeSet<>();
+        Set<String> own = new TreeSet<>();
+        for (Method m : HarpPedals.class.getDeclaredMethods()) {
+            boolean isPublic = Modifier.isPublic(m.getModifiers());
+            rule("1: " + m.getName() + " is public or private", isPublic || Modifier.isPrivate(m.getModifiers()));
+            (isPublic ? face : own).add(m.getName());
+        }
+        rule("1: the face is " + FACE + ", not " + face, String.join(" ", face).equals(FACE));
+        Set<String> constants = new TreeSet<>();
+        for (Field f : HarpPedals.class.getDeclaredFields()) {
+            boolean isPublic = Modifier.isPublic(f.getModifiers());
+            rule("1: " + f.getName() + " is public or private", isPublic || Modifier.isPrivate(f.getModifiers()));
+            if (isPublic) {
+                constants.add(f.getName());
+            }
+        }
+        rule("1: the constants", constants.equals(Set.of("NONE", "UNKNOWN", "OUTSIDE", "STATE", "FULL")));
+        rule("11: at most twelve classes", HarpPedals.class.getDeclaredClasses().length <= 11);
+        for (Class<?> c : HarpPedals.class.getDeclaredClasses()) {
+            rule("2: " + c.getName() + " is static", Modifier.isStatic(c.getModifiers()));
+            for (Method m : c.getDeclaredMethods()) {
+                own.add(m.getName());
+            }
+            fieldsOf(c);
+        }
+        fieldsOf(HarpPedals.class);
+        own.retainAll(face);
+        rule("1: no other method bears a name of the face, but " + own + " do", own.isEmpty());
+    }
+
+    private static void fieldsOf(Class<?> c) {
+        int fields = 0;
+        for (Field f : c.getDeclaredFields()) {
+            boolean isStatic = Modifier.isStatic(f.getModifiers());
+            rule("5: " + c.getName() + "." + f.getName() + " is final", !isStatic || Modifier.isFinal(f.getModifiers()));
+            fields += isStatic ? 0 : 1;
+        }
+        rule("11: at most twenty fields in " + c.getName(), fields <= 20);
+    }
+
+    private static void theWords(String code) {
+        String[] banned = {"throw", "throws", "try", "catch", "finally", "synchronized", "assert", "static \\{", "protected",
+            "package", "native", "Math\\.\\w+Exact", "System\\.(?!arraycopy)\\w+", "Random", "Thread", "->", "::", "hashCode",
+            "toString", "equals", "instanceof", "double", "float"};
+        for (String word : banned) {
+            String bounded = Character.isLetter(word.charAt(0)) && Character.isLetter(word.charAt(word.length() - 1))
+                ? "\\b" + word + "\\b" : word;
+            rule("no " + word, !Pattern.compile(bounded).matcher(code).find());
+        }
+        Matcher imports = Pattern.compile("(?m)^import (.*);").matcher(code);
+        while (imports.find()) {
+            rule("4: import " + imports.group(1), imports.group(1).equals("java.util.Arrays"));
+        }
+        rule("3: no array of three dimensions", !code.contains("[][][]"));
+    }
+
+    private static void theMethods(String code) {
+        int open = 0;
+        int depth = 0;
+        String name = "";
+        String[] lines = code.split("\n");
+        for (int i = 0; i < lines.length; i++) {
+            String line = lines[i];
+            boolean begins = line.matches("    (    )?[a-zA-Z].*\\) \\{");
+            if (begins) {
+                open = i;
+                depth = line.length() - line.stripLeading().length();
+                name = line.strip();
+                rule("11: at most seven parameters: " + name, name.chars().filter(c -> c == ',').count() < 7);
+            }
+            if (line.equals(" ".repeat(depth) + "}") && depth > 0) {
+                rule("11: at most sixty lines: " + name, i - open < 60);
+            }
+        }
+    }
+
+    /** No call makes an object: all rows are made with the object itself. */
+    private static void theRoom() {
+        calls(new HarpPedals());
+        calls(new HarpPedals());
+        com.sun.management.ThreadMXBean threads = (com.sun.management.ThreadMXBean) ManagementFactory.getThreadMXBean();
+        long here = Thread.currentThread().getId();
+        long first = threads.getThreadAllocatedBytes(here);
+        HarpPedals x = new HarpPedals();
+        long made = threads.getThreadAllocatedBytes(here);
+        calls(x);
+        long used = threads.getThreadAllocatedBytes(here);
+        rule("an object takes at most 40,000 ints, but it took " + (made - first) + " bytes", made - first < 160_000);
+        rule("a call takes nothing, but calls took " + (used - made) + " bytes", used - made < 5_000);
+    }
+
+    private static void calls(HarpPedals x) {
+        int[] codes = {49, 49, 49, 49, 49, 49, 49, 59, 99, 97, 44, 104, 98, 101, 44, 113, 99};
+        for (int code : codes) {
+            x.letter(code);
+        }
+        x.fault();
+        x.part();
+        for (int i = 0; i < 5; i++) {
+            x.put(i, i, 1 << i);
+            x.change(i, 0);
+            x.press(i, i % 3);
+            x.see(i, i % 4, true);
+            x.swap(i, i + 1);
+            x.shift(i);
+            x.shifted(i);
+            x.leastShift();
+            x.free();
+            x.drawn(30, i, 0);
+            x.image();
+            x.restore();
+            x.take(1);
+            x.digest();
+        }
+        x.forget();
+        x.blank();
+    }
+}
