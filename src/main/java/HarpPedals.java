@@ -694,12 +694,16 @@ public final class HarpPedals {
             return NONE;
         }
 
+        static boolean isSetting(int setting) {
+            return setting >= 0 && setting < SETTINGS;
+        }
+
         /** The tone of a pedal 0 to 6 in a position 0 to 2. */
         static int toneAt(int pedal, int position) {
             return (NATURAL_TONES[pedal] + position + OCTAVE - 1) % OCTAVE;
         }
 
-        /** Divides by constants alone, so that no divisor can be 0. */
+        // a case for each pedal, so that all divisors are constants
         static int positionAt(int setting, int pedal) {
             switch (pedal) {
                 case 0:
@@ -752,8 +756,8 @@ public final class HarpPedals {
             held = 0;
             for (int pedal = 0; pedal < PEDALS; pedal++) {
                 for (int position = 0; position < POSITIONS; position++) {
-                    int isHeld = tonesHeld >> Settings.toneAt(pedal, position) & 1;
-                    held |= isHeld << pedal * POSITIONS + position;
+                    int bit = tonesHeld >> Settings.toneAt(pedal, position) & 1;
+                    held |= bit << pedal * POSITIONS + position;
                 }
             }
         }
@@ -865,7 +869,9 @@ public final class HarpPedals {
             int[] from = oneRow;
             int[] to = otherRow;
             Arrays.fill(from, NO_PLAN);
-            from[part.begin] = ONE_WAY;
+            if (Settings.isSetting(part.begin)) {
+                from[part.begin] = ONE_WAY;
+            }
             for (int chord = 0; chord < part.size; chord++) {
                 setGapAheadOf(part, chord, by);
                 cross(from, to, part.kinds[chord], raised(part.tones[chord], by), true);

@@ -218,6 +218,15 @@ public final class PromisesTest {
         due("5 read twice", x.count(5), 2);
         due("5 eight chords", written("0120120;" + "habcd,".repeat(7) + "bijkl").part(), 8);
         due("5 one that is none keeps the part", keptAfterBadPage(), 1);
+        HarpPedals y = read("1111111;cb");
+        due("5 the plan of one part", y.plan(0) * 10000000 + y.setting(0), 10111111);
+        write(y, "1111111;ca");
+        y.part();
+        due("5 the plan of another", y.plan(0) * 10000000 + y.setting(0), 1111111);
+        y.leastShift();
+        write(y, "1111111;ca");
+        y.part();
+        due("5 how often LEAST SHIFT was asked for is the object's, not the part's", y.count(6), 1);
     }
 
     private static int keptAfterBadPage() {
