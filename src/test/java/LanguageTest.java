@@ -4,8 +4,11 @@ import java.lang.reflect.Method;
 import java.lang.reflect.Modifier;
 import java.nio.file.Files;
 import java.nio.file.Path;
+import java.util.Arrays;
+import java.util.List;
 import java.util.Set;
 import java.util.TreeSet;
+import java.util.function.Supplier;
 import java.util.regex.Matcher;
 import java.util.regex.Pattern;
 
@@ -29,6 +32,7 @@ public final class LanguageTest {
         theWords(code);
         theMethods(code);
         theRoom();
+        noCallThrows();
         System.out.println(wrong == 0 ? "all rules hold" : wrong + " rules do not hold");
         if (wrong != 0) {
             System.exit(1);
@@ -125,6 +129,43 @@ public final class LanguageTest {
         long used = threads.getThreadAllocatedBytes(here);
         rule("an object takes at most 40,000 ints, but it took " + (made - first) + " bytes", made - first < 160_000);
         rule("a call takes nothing, but calls took " + (used - made) + " bytes", used - made < 5_000);
+    }
+
+    /** 7: every call, with numbers at and beyond each limit, in objects with nothing, something, all places taken. */
+    private static void noCallThrows() {
+        List<Supplier<HarpPedals>> states = List.of(HarpPedals::new, () -> Edges.written("1111111;c"),
+            Edges.part("1111111;ca"), Edges::middling, Edges::full);
+        for (Supplier<HarpPedals> state : states) {
+            for (Method m : HarpPedals.class.getDeclaredMethods()) {
+                if (Modifier.isPublic(m.getModifiers())) {
+                    callWithAll(state, m);
+                }
+            }
+        }
+    }
+
+    private static void callWithAll(Supplier<HarpPedals> state, Method m) {
+        int[] numbers = {Integer.MIN_VALUE, -1, 0, 1, 3, 7, 8, 12, 31, 57, 127, 4096, Integer.MAX_VALUE};
+        int many = m.getParameterCount();
+        int turns = (int) Math.pow(numbers.length, many);
+        HarpPedals x = state.get();
+        for (int turn = 0; turn < turns; turn++) {
+            if (turn % 200 == 199) {
+                x = state.get();
+            }
+            Object[] arguments = new Object[many];
+            int rest = turn;
+            for (int i = 0; i < many; i++) {
+                int number = numbers[rest % numbers.length];
+                arguments[i] = m.getParameterTypes()[i] == boolean.class ? (Object) (number > 3) : (Object) number;
+                rest /= numbers.length;
+            }
+            try {
+                m.invoke(x, arguments);
+            } catch (ReflectiveOperationException e) {
+                rule("7: " + m.getName() + Arrays.toString(arguments) + " threw " + e.getCause(), false);
+            }
+        }
     }
 
     private static void calls(HarpPedals x) {
