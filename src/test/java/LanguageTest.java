@@ -12,10 +12,8 @@ import java.util.function.Supplier;
 import java.util.regex.Matcher;
 import java.util.regex.Pattern;
 
-/** Those rules of LANGUAGE.md that can be looked at, and the room that calls take. */
+/** The document's face, those rules of LANGUAGE.md that can be looked at, and the room that calls take. */
 public final class LanguageTest {
-    private static final String FACE = "as blank change chord count digest drawn fault forget free image leastShift letter "
-        + "part plan press put reach restore see setting shift shifted swap take tone";
     private static int wrong = 0;
 
     private static void rule(String what, boolean holds) {
@@ -29,6 +27,7 @@ public final class LanguageTest {
         String source = Files.readString(Path.of("src/main/java/HarpPedals.java"));
         String code = source.replaceAll("(?s)/\\*.*?\\*/", "").replaceAll("//[^\n]*", "");
         theFace();
+        theFaceOfTheDocument();
         theWords(code);
         theMethods(code);
         theRoom();
@@ -47,7 +46,6 @@ public final class LanguageTest {
             rule("1: " + m.getName() + " is public or private", isPublic || Modifier.isPrivate(m.getModifiers()));
             (isPublic ? face : own).add(m.getName());
         }
-        rule("1: the face is " + FACE + ", not " + face, String.join(" ", face).equals(FACE));
         Set<String> constants = new TreeSet<>();
         for (Field f : HarpPedals.class.getDeclaredFields()) {
             boolean isPublic = Modifier.isPublic(f.getModifiers());
@@ -68,6 +66,35 @@ public final class LanguageTest {
         fieldsOf(HarpPedals.class);
         own.retainAll(face);
         rule("1: no other method bears a name of the face, but " + own + " do", own.isEmpty());
+    }
+
+    /** Each call with what it takes and answers, and each constant, as they stand in the document's Java. */
+    private static void theFaceOfTheDocument() throws Exception {
+        Set<String> due = new TreeSet<>();
+        Matcher calls = Pattern.compile("(?m)^    (public \\w+ \\w+)\\((.*)\\);$").matcher(Face.TEXT);
+        while (calls.find()) {
+            due.add(calls.group(1) + "(" + calls.group(2).replaceAll("(\\w+) \\w+", "$1") + ")");
+        }
+        Set<String> there = new TreeSet<>();
+        for (Method m : HarpPedals.class.getDeclaredMethods()) {
+            if (!Modifier.isPrivate(m.getModifiers())) {
+                String takes = Arrays.toString(m.getParameterTypes()).replaceAll("[\\[\\]]", "");
+                there.add(Modifier.toString(m.getModifiers()) + " " + m.getReturnType() + " " + m.getName() + "(" + takes + ")");
+            }
+        }
+        rule("1: the calls are " + due + ", not " + there, due.equals(there));
+        Matcher constants = Pattern.compile("([A-Z]+) = (-\\d+)[,;]").matcher(Face.TEXT);
+        int many = 0;
+        while (constants.find()) {
+            Field f = HarpPedals.class.getField(constants.group(1));
+            boolean isSo = Modifier.toString(f.getModifiers()).equals("public static final") && f.getType() == int.class;
+            rule("1: " + constants.group(), isSo && f.getInt(null) == Integer.parseInt(constants.group(2)));
+            many++;
+        }
+        rule("1: the face has five constants, not " + many, many == 5);
+        rule("1: public and final", Modifier.toString(HarpPedals.class.getModifiers()).equals("public final"));
+        rule("1: one public constructor", HarpPedals.class.getDeclaredConstructors().length == 1
+            && HarpPedals.class.getConstructors().length == 1);
     }
 
     private static void fieldsOf(Class<?> c) {

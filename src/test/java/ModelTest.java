@@ -16,12 +16,18 @@ import java.util.TreeSet;
 public final class ModelTest {
     private static final int RUNS = 260;
     private static final int CALLS = 60;
+    private static final int LONG_RUNS = 8;
+    // the document's most; the last part written in a run and its digest() have to be within it, too
+    private static final int MOST_CALLS = 512 - 62;
     private static int wrong = 0;
     private static int asked = 0;
 
     public static void main(String[] args) {
         for (int run = 0; run < RUNS && wrong < 20; run++) {
-            oneRun(run);
+            oneRun(run, CALLS);
+        }
+        for (int run = 0; run < LONG_RUNS && wrong < 20; run++) {
+            oneRun(RUNS + run, MOST_CALLS);
         }
         waysBeyondTheRest();
         System.out.println(asked + " answers, " + wrong + " wrong");
@@ -54,13 +60,14 @@ public final class ModelTest {
         }
     }
 
-    private static void oneRun(int run) {
+    private static void oneRun(int run, int calls) {
         Random random = new Random(1000 + run);
         Model m = new Model();
         HarpPedals x = new HarpPedals();
         StringBuilder told = new StringBuilder("run " + run + ":");
         int richest = 1 + random.nextInt(4);
-        for (int call = 0; call < CALLS && wrong < 20; call++) {
+        int first = asked;
+        for (int call = 0; call < calls && asked - first < MOST_CALLS && wrong < 20; call++) {
             if (call == 3 || random.nextInt(40) == 0) {
                 write(random, x, m, told, partText(random, 8, richest));
             }
