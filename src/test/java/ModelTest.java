@@ -17,17 +17,18 @@ public final class ModelTest {
     private static final int RUNS = 260;
     private static final int CALLS = 60;
     private static final int LONG_RUNS = 8;
-    // the document's most; the last part written in a run and its digest() have to be within it, too
-    private static final int MOST_CALLS = 512 - 62;
+    private static final int MOST_CALLS = 512;
+    // blank(), 55 letters, fault(), part(), and then one more turn
+    private static final int CALLS_TO_WRITE = 60;
     private static int wrong = 0;
     private static int asked = 0;
 
     public static void main(String[] args) {
         for (int run = 0; run < RUNS && wrong < 20; run++) {
-            oneRun(run, CALLS);
+            oneRun(run);
         }
         for (int run = 0; run < LONG_RUNS && wrong < 20; run++) {
-            oneRun(RUNS + run, MOST_CALLS);
+            longRun(RUNS + run);
         }
         waysBeyondTheRest();
         System.out.println(asked + " answers, " + wrong + " wrong");
@@ -60,20 +61,38 @@ public final class ModelTest {
         }
     }
 
-    private static void oneRun(int run, int calls) {
+    private static void oneRun(int run) {
         Random random = new Random(1000 + run);
         Model m = new Model();
         HarpPedals x = new HarpPedals();
         StringBuilder told = new StringBuilder("run " + run + ":");
         int richest = 1 + random.nextInt(4);
-        int first = asked;
-        for (int call = 0; call < calls && asked - first < MOST_CALLS && wrong < 20; call++) {
+        for (int call = 0; call < CALLS && wrong < 20; call++) {
             if (call == 3 || random.nextInt(40) == 0) {
                 write(random, x, m, told, partText(random, 8, richest));
             }
             oneCall(random, x, m, told);
         }
         due(told + " digest()", x.digest(), m.digest());
+    }
+
+    /** As many calls as an object is used for, each of which is due one answer. */
+    private static void longRun(int run) {
+        Random random = new Random(1000 + run);
+        Model m = new Model();
+        HarpPedals x = new HarpPedals();
+        StringBuilder told = new StringBuilder("long run " + run + ":");
+        int first = asked;
+        write(random, x, m, told, partText(random, 8, 2));
+        while (asked - first < MOST_CALLS - 2 && wrong < 20) {
+            if (asked - first < MOST_CALLS - CALLS_TO_WRITE && random.nextInt(60) == 0) {
+                write(random, x, m, told, partText(random, 8, 2));
+            }
+            oneCall(random, x, m, told);
+        }
+        while (asked - first < MOST_CALLS && wrong < 20) {
+            due(told + " digest()", x.digest(), m.digest());
+        }
     }
 
     private static void write(Random random, HarpPedals x, Model m, StringBuilder told, String text) {
